@@ -520,6 +520,17 @@ public final class FullMoonWho {
         return row & ~(255L << (8 * i)) | (long) (value & 255) << (8 * i);
     }
 
+    /** The number at this place of a row; 0: there is no such place. */
+    private static int at(int[] row, int i) {
+        return i >= 0 && i < row.length ? row[i] : 0;
+    }
+
+    private static void put(int[] row, int i, int value) {
+        if (i >= 0 && i < row.length) {
+            row[i] = value;
+        }
+    }
+
     private static long powerOf(long base, int n) {
         long power = 1;
         for (int i = 0; i < n; i++) {
@@ -641,6 +652,8 @@ public final class FullMoonWho {
         private final Text text;
         private final Village village = new Village();
         private int place = 0;
+        private int endA = NONE;
+        private int endB = NONE;
 
         Reader(Text text) {
             this.text = text;
@@ -688,18 +701,11 @@ public final class FullMoonWho {
         }
 
         private boolean readPath() {
-            int ends = linkable(village.paths, village.houses);
-            if (ends == 0) {
-                return false;
-            }
-            place++;
-            int a = figure(ends);
-            int b = a < 0 ? NONE : figure(unlinked(village.paths, village.houses, a));
-            int well = b < 0 ? NONE : figure(below(2));
+            int well = readEnds(village.paths, village.houses) ? figure(below(2)) : NONE;
             if (well < 0) {
                 return false;
             }
-            village.addPath(a, b, well == 1);
+            village.addPath(endA, endB, well == 1);
             return true;
         }
 
@@ -718,18 +724,23 @@ public final class FullMoonWho {
         }
 
         private boolean readKin() {
-            int ends = linkable(village.kin, village.people);
+            if (!readEnds(village.kin, village.people)) {
+                return false;
+            }
+            village.addKin(endA, endB);
+            return true;
+        }
+
+        /** Reads the letter of a link and its ends, two of n ones that are not linked so far. */
+        private boolean readEnds(long links, int n) {
+            int ends = linkable(links, n);
             if (ends == 0) {
                 return false;
             }
             place++;
-            int i = figure(ends);
-            int j = i < 0 ? NONE : figure(unlinked(village.kin, village.people, i));
-            if (j < 0) {
-                return false;
-            }
-            village.addKin(i, j);
-            return true;
+            endA = figure(ends);
+            endB = endA < 0 ? NONE : figure(unlinked(links, n, endA));
+            return endB >= 0;
         }
 
         /** The figure at the place, if it is one of the allowed ones (the place goes on); NONE: it is not. */
@@ -977,16 +988,6 @@ public final class FullMoonWho {
         int value(int i) {
             return at(values, i);
         }
-
-        private static int at(int[] row, int i) {
-            return i >= 0 && i < row.length ? row[i] : NONE;
-        }
-
-        private static void put(int[] row, int i, int value) {
-            if (i >= 0 && i < row.length) {
-                row[i] = value;
-            }
-        }
     }
 
     /** How many tales of each set fit all sights, and what follows from these. */
@@ -999,8 +1000,10 @@ public final class FullMoonWho {
         private final int[] left = new int[CUBES];
         private final int[] needs = new int[CUBES];
         private int people = 0;
-        /** Of the moon that is looked at: who was out, and of each person in how many ways
-            it leaves no track that was looked for, and where it leaves one. */
+        /**
+         * Of the moon that is looked at: who was not hungry behind it, and of each person in how
+         * many ways it leaves no track that was looked for, and where it leaves one.
+         */
         private int away = 0;
         private long unseenWays = 0;
         private long seenHouses = 0;
@@ -1055,9 +1058,9 @@ public final class FullMoonWho {
             for (int p = 0; p < village.people; p++) {
                 int reach = has(stayed, p) ? 0 : night.reach(village, p);
                 int seen = reach & watched & ~cell(village.wells, cell(village.homes, p));
-                int home = has(away, p) ? 0 : 1;
+                int nowhere = has(away, p) ? 0 : 1;
                 seenHouses = withCell(seenHouses, p, seen);
-                unseenWays = withCell(unseenWays, p, Integer.bitCount(reach & ~seen) + home);
+                unseenWays = withCell(unseenWays, p, Integer.bitCount(reach & ~seen) + nowhere);
             }
             return wanted;
         }
@@ -1160,7 +1163,7 @@ public final class FullMoonWho {
         /** How many spoons tell the sets apart, if each is chosen best. */
         int spoonsAtWorst() {
             // What a spoon leaves of a cube has a smaller number, and so is known ahead of it.
-            for (int cube = 0; cube < left.length && cube < needs.length; cube++) {
+            for (int cube = 0; cube < CUBES; cube++) {
                 fillCube(cube);
             }
             return at(needs, CUBES - 1);
@@ -1189,14 +1192,8 @@ public final class FullMoonWho {
             if (sets < 0) {
                 sets = set < fits.length && fits[set] > 0 ? 1 : 0;
             }
-            if (cube >= 0 && cube < left.length && cube < needs.length) {
-                left[cube] = sets;
-                needs[cube] = sets <= 1 ? 0 : fewest;
-            }
-        }
-
-        private static int at(int[] row, int i) {
-            return i >= 0 && i < row.length ? row[i] : 0;
+            put(left, cube, sets);
+            put(needs, cube, sets <= 1 ? 0 : fewest);
         }
     }
 
@@ -1236,13 +1233,11 @@ public final class FullMoonWho {
             if (walker >= village.people) {
                 return nights > 1 ? sharesAfterDawn(step, nights, person) : 0;
             }
-            int goals = here.goals(village, walker);
-            if (nights == 1) {
-                // In the last night nothing matters but what happens in this person's house.
-                goals &= bit(cell(village.homes, person));
-            }
-            int all = Integer.bitCount(here.goals(village, walker));
+            int may = here.goals(village, walker);
+            int all = Integer.bitCount(may);
             int each = all == 0 ? 0 : SHARES / all;
+            // In the last night nothing matters but what happens in this person's house.
+            int goals = nights == 1 ? may & bit(cell(village.homes, person)) : may;
             int still = SHARES - each * Integer.bitCount(goals);
             long sum = still == 0 ? 0 : still * shares(step, walker + 1, nights, person);
             Night next = nightAt(steps, step + 1);

@@ -13,6 +13,7 @@ final class SightsTest {
         tales();
         talesByTracks();
         talesByBreakfastsAndSpoons();
+        talesOfSeveralHouses();
         talesOfTheVillageAsItIs();
         whatIsNotLookedAt();
         setsInOrder();
@@ -135,6 +136,21 @@ final class SightsTest {
         who.track(0, 1, 1);
         who.hungry(0, 0, true);
         check.due("23: the other one left the track", who.tales(), 4 * 5);
+    }
+
+    /** A house can be looked at from several ones, and several houses in one moon. */
+    private static void talesOfSeveralHouses() {
+        FullMoonWho who = Check.villageOf("VH00H00H00R010R021R120P00P10P20");
+        check.due("23: three in a ring", who.tales(), 28L * 28 * 28);
+        who.track(0, 0, 1);
+        // Only from 1 a track comes to 0: 1 goes there; 0 and 2 do as they like.
+        check.due("23: by one path of two", who.tales(), 9L * 28 * 28);
+        who.track(0, 1, 2);
+        check.due("23: and two tracks at 1", who.tales(), 9L * 9 * 9);
+        who.track(0, 2, 0);
+        check.due("23: and none at 2", who.tales(), 9L * 9 * 9);
+        who.track(0, 2, 1);
+        check.due("23: one and none at 2", who.tales(), 0);
     }
 
     private static void talesOfTheVillageAsItIs() {

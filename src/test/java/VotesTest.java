@@ -7,6 +7,7 @@ final class VotesTest {
         leastOfLikeOnes();
         wolves();
         mostSets();
+        hangedAskedFirst();
         noVotes();
         check.end();
     }
@@ -61,6 +62,22 @@ final class VotesTest {
         wolf.spoon(2, false);
         votes(wolf, 1, 2, 1);
         check.due("31: a wolf for no wolf", wolf.hanged(), 1);
+    }
+
+    private static void hangedAskedFirst() {
+        FullMoonWho who = Check.villageOf("VH00H00R010P00P00P00");
+        who.spoon(2, false);
+        check.due("31: by the sights as they are", who.hanged(), 2);
+        who.unsee();
+        check.due("31: without sights", who.hanged(), 0);
+        FullMoonWho one = Check.villageOf("VH00P01P01P00");
+        one.hang(2);
+        one.hang(1);
+        check.due("31: a wolf alone", one.hanged(), NONE);
+        one.undo();
+        one.undo();
+        one.hang(0);
+        check.due("31: one vote for each", one.hanged(), 1);
     }
 
     private static void noVotes() {

@@ -567,8 +567,10 @@ final class EdgesTextTest extends Edges {
         FullMoonWho who = some();
         Check.rewrite(who, "V");
         due("village", who.village(), 0);
-        due("houses", who.count(1), 0);
-        due("people", who.count(2), 0);
+        due("sights stay", who.unsee(), 3);
+        for (int what = 1; what <= 10; what++) {
+            due("count(" + what + ")", who.count(what), 0);
+        }
         due("house(0, 0)", who.house(0, 0), UNKNOWN);
         due("person(0, 0)", who.person(0, 0), UNKNOWN);
     }
